@@ -1,0 +1,53 @@
+/** Counts the answers of one test and tells those that are not as due. */
+final class Due {
+    private final String test;
+    private int looked;
+    private int wrong;
+
+    Due(String test) {
+        this.test = test;
+    }
+
+    void is(String call, long got, long want) {
+        looked++;
+        if (got != want) {
+            wrong++;
+            System.out.println(test + ": " + call + " answered " + got + ", due is " + want);
+        }
+    }
+
+    /** Ends the test with exit code 1 if an answer was wrong, or if there was none at all. */
+    void end() {
+        System.out.println(test + ": " + looked + " answers, " + wrong + " not as due");
+        if (wrong != 0 || looked == 0) {
+            System.exit(1);
+        }
+    }
+
+    /** Lays a TEXT with these signs. */
+    static void write(NeitherBare x, int t, String signs) {
+        x.text(t, signs.length());
+        for (int i = 0; i < signs.length(); i++) {
+            x.put(t, i, signs.charAt(i));
+        }
+    }
+
+    /** A new object whose COURT these signs tell. */
+    static NeitherBare court(String signs) {
+        NeitherBare x = new NeitherBare();
+        write(x, 0, signs);
+        if (x.court(0) < 1) {
+            System.out.println("no COURT: " + signs);
+            System.exit(1);
+        }
+        return x;
+    }
+
+    /** Lays a ROW with these ints. */
+    static void fill(NeitherBare x, int r, int... ints) {
+        x.row(r, ints.length);
+        for (int i = 0; i < ints.length; i++) {
+            x.lay(r, i, ints[i]);
+        }
+    }
+}
