@@ -17,6 +17,9 @@ public final class NeitherBare {
     private static final int LETTER_OF_THING = 116, FIGURE_0 = 48;
     private static final int[] LETTERS = {99, 110, 98, 117, 104, 120};
     private static final int[] PARENTS = {NONE, CLAUSE, CLAUSE, CLAUSE, NEITHER, BOTH};
+    // WAYS (bits of a long) that lack THING 0, 1, ..
+    private static final long[] WITHOUT = {0x5555555555555555L, 0x3333333333333333L, 0x0F0F0F0F0F0F0F0FL,
+        0x00FF00FF00FF00FFL, 0x0000FFFF0000FFFFL, 0x00000000FFFFFFFFL};
     private static final int ONLY_SO = 1000, PUT_MORE = 1000, DOZEN = 12, LOTS_MOST = 40;
     private static final long LOT_TIMES = 48271L, LOT_MODULUS = 2147483647L;
     private static final int COUNTS = 9;
@@ -50,12 +53,9 @@ public final class NeitherBare {
     }
 
     public int lay(int r, int i, int v) {
-        if (!rows.isPlace(r)) {
-            return BAD;
-        }
-        int wrong = cellFinding(rows, r, i);
-        if (wrong != 0) {
-            return refuse(wrong);
+        int refused = refusedCell(rows, r, i);
+        if (refused != 0) {
+            return refused;
         }
         told = rows.cellOf(r, i);
         rows.setCell(r, i, v);
@@ -63,23 +63,18 @@ public final class NeitherBare {
     }
 
     public int at(int r, int i) {
-        if (!rows.isPlace(r)) {
-            return BAD;
-        }
-        int wrong = cellFinding(rows, r, i);
-        if (wrong != 0) {
-            return refuse(wrong);
+        int refused = refusedCell(rows, r, i);
+        if (refused != 0) {
+            return refused;
         }
         told = rows.cellOf(r, i);
         return 1;
     }
 
     public int tear(int r) {
-        if (!rows.isPlace(r)) {
-            return BAD;
-        }
-        if (!rows.isThere(r)) {
-            return refuse(NOTHING);
+        int refused = refusedPlace(rows, r);
+        if (refused != 0) {
+            return refused;
         }
         rows.remove(r);
         return 1;
@@ -103,11 +98,9 @@ public final class NeitherBare {
     }
 
     public int mean(int r) {
-        if (!rows.isPlace(r)) {
-            return BAD;
-        }
-        if (!rows.isThere(r)) {
-            return refuse(NOTHING);
+        int refused = refusedPlace(rows, r);
+        if (refused != 0) {
+            return refused;
         }
         int size = rows.sizeOf(r);
         if (size <= 0) {
@@ -126,12 +119,9 @@ public final class NeitherBare {
     }
 
     public int put(int t, int i, int v) {
-        if (!texts.isPlace(t)) {
-            return BAD;
-        }
-        int wrong = cellFinding(texts, t, i);
-        if (wrong != 0) {
-            return refuse(wrong);
+        int refused = refusedCell(texts, t, i);
+        if (refused != 0) {
+            return refused;
         }
         int was = texts.cellOf(t, i);
         texts.setCell(t, i, (byte) v);
@@ -139,21 +129,17 @@ public final class NeitherBare {
     }
 
     public int fault(int t) {
-        if (!texts.isPlace(t)) {
-            return BAD;
-        }
-        if (!texts.isThere(t)) {
-            return refuse(NOTHING);
+        int refused = refusedPlace(texts, t);
+        if (refused != 0) {
+            return refused;
         }
         return draft.readFrom(texts, t);
     }
 
     public int court(int t) {
-        if (!texts.isPlace(t)) {
-            return BAD;
-        }
-        if (!texts.isThere(t)) {
-            return refuse(NOTHING);
+        int refused = refusedPlace(texts, t);
+        if (refused != 0) {
+            return refused;
         }
         if (draft.readFrom(texts, t) != NONE) {
             return STATE;
@@ -161,6 +147,7 @@ public final class NeitherBare {
         Court before = court;
         court = draft;
         draft = before;
+        court.addUp();
         now.beginWith(court.clauses);
         for (int k = 0; k < PLACES; k++) {
             kept[k].isThere = false;
@@ -458,7 +445,7 @@ public final class NeitherBare {
             return STATE;
         }
         judgeWays(now.border);
-        return winsAgainstKing(n, 0, 0) ? 1 : 0;
+        return hasWayOfNone(winningWays(n, 0)) ? 1 : 0;
     }
 
     public int names(int n) {
@@ -470,7 +457,7 @@ public final class NeitherBare {
         }
         judgeWays(now.border);
         for (int k = 0; k < court.clauses; k++) {
-            if (now.isOn(k) && !winsByTaking(n, 1 << k, 0)) {
+            if (now.isOn(k) && !hasWayOfNone(waysAhead(winningWays(n - 1, 1 << k)))) {
                 return k;
             }
         }
@@ -480,12 +467,9 @@ public final class NeitherBare {
     // ---- 6 rulings
 
     public int contradict(int r) {
-        if (!rows.isPlace(r)) {
-            return BAD;
-        }
-        int wrong = rulingFinding(r);
-        if (wrong != 0) {
-            return refuse(wrong);
+        int refused = refusedRulings(r);
+        if (refused != 0) {
+            return refused;
         }
         int rulings = rows.sizeOf(r) / 3;
         int many = 0;
@@ -503,12 +487,9 @@ public final class NeitherBare {
     }
 
     public int fix(int r) {
-        if (!rows.isPlace(r)) {
-            return BAD;
-        }
-        int wrong = rulingFinding(r);
-        if (wrong != 0) {
-            return refuse(wrong);
+        int refused = refusedRulings(r);
+        if (refused != 0) {
+            return refused;
         }
         int all = 0;
         for (int trait = 0; trait < TRAITS; trait++) {
@@ -519,12 +500,12 @@ public final class NeitherBare {
     }
 
     public int follows(int r, int trait, int value) {
-        if (!rows.isPlace(r) || !isTrait(trait) || !isValue(value)) {
+        if (!isTrait(trait) || !isValue(value)) {
             return BAD;
         }
-        int wrong = rulingFinding(r);
-        if (wrong != 0) {
-            return refuse(wrong);
+        int refused = refusedRulings(r);
+        if (refused != 0) {
+            return refused;
         }
         boolean isLess = false;
         for (int i = 0; i < rows.sizeOf(r) / 3; i++) {
@@ -541,12 +522,12 @@ public final class NeitherBare {
     }
 
     public int borders(int r, int trait) {
-        if (!rows.isPlace(r) || !isTrait(trait)) {
+        if (!isTrait(trait)) {
             return BAD;
         }
-        int wrong = rulingFinding(r);
-        if (wrong != 0) {
-            return refuse(wrong);
+        int refused = refusedRulings(r);
+        if (refused != 0) {
+            return refused;
         }
         int bits = 0;
         for (int upper = 1; upper <= VALUE_MOST; upper++) {
@@ -620,12 +601,12 @@ public final class NeitherBare {
     }
 
     public int judged(int k, int r) {
-        if (!isClause(k) || !rows.isPlace(r)) {
+        if (!isClause(k)) {
             return BAD;
         }
-        int wrong = judgementFinding(r);
-        if (wrong != 0) {
-            return refuse(wrong);
+        int refused = refusedJudgements(r);
+        if (refused != 0) {
+            return refused;
         }
         copyBordersToTrial();
         int trait = court.trait[k];
@@ -769,11 +750,20 @@ public final class NeitherBare {
         return n;
     }
 
-    private static int cellFinding(Shelf shelf, int place, int i) {
-        if (!shelf.isThere(place)) {
-            return NOTHING;
+    /** BAD or FINDING if there is no such ROW or TEXT, else 0. */
+    private int refusedPlace(Shelf shelf, int place) {
+        if (!shelf.isPlace(place)) {
+            return BAD;
         }
-        return shelf.hasStretch(place, i, 1) ? 0 : BEYOND;
+        return shelf.isThere(place) ? 0 : refuse(NOTHING);
+    }
+
+    private int refusedCell(Shelf shelf, int place, int i) {
+        int refused = refusedPlace(shelf, place);
+        if (refused != 0) {
+            return refused;
+        }
+        return shelf.hasStretch(place, i, 1) ? 0 : refuse(BEYOND);
     }
 
     private boolean isClause(int k) {
@@ -913,51 +903,65 @@ public final class NeitherBare {
         System.arraycopy(now.border, 0, trial, 0, 2 * TRAITS);
     }
 
-    // ---- by turns: the turns left carry the depth, three at most
+    // ---- by turns: sets of WAYS as bits of a long, the WAY of none bit 0
 
-    private boolean winsAgainstKing(int turns, int named, int taken) {
+    /** WAYS from which she wins with so many turns left (three at most: the depth), the king being next. */
+    private long winningWays(int turns, int named) {
         if (turns <= 0) {
-            return isMet(masks[taken], named);
+            return waysMeeting(named);
         }
         int left = now.on & ~named;
         if (left == 0) {
-            return winsByTaking(turns, named, taken);
+            return waysAhead(winningWays(turns - 1, named));
         }
+        long all = -1L;
         for (int k = 0; k < court.clauses; k++) {
-            if (hasBit(left, k) && !winsByTaking(turns, named | 1 << k, taken)) {
-                return false;
+            if (hasBit(left, k)) {
+                all &= waysAhead(winningWays(turns - 1, named | 1 << k));
             }
         }
-        return true;
+        return all;
     }
 
-    private boolean winsByTaking(int turns, int named, int taken) {
-        if (winsAgainstKing(turns - 1, named, taken)) {
-            return true;
-        }
-        for (int i = 0; i < court.things; i++) {
-            if (!hasBit(taken, i) && winsAgainstKing(turns - 1, named, taken | 1 << i)) {
-                return true;
+    private long waysMeeting(int clauses) {
+        long ways = 0L;
+        for (int way = 0; way < court.ways(); way++) {
+            if (isMet(masks[way], clauses)) {
+                ways |= 1L << way;
             }
         }
-        return false;
+        return ways;
+    }
+
+    /** WAYS from which one THING more, or none, leads to one of these. */
+    private long waysAhead(long ways) {
+        long ahead = ways;
+        for (int i = 0; i < court.things; i++) {
+            ahead |= ways >>> (1 << i) & WITHOUT[i];
+        }
+        return ahead;
+    }
+
+    private static boolean hasWayOfNone(long ways) {
+        return (ways & 1L) == 1L;
     }
 
     // ---- rulings
 
-    private int rulingFinding(int r) {
-        if (!rows.isThere(r)) {
-            return NOTHING;
+    private int refusedRulings(int r) {
+        int refused = refusedPlace(rows, r);
+        if (refused != 0) {
+            return refused;
         }
         int size = rows.sizeOf(r);
         if (size % 3 != 0) {
-            return SIZE;
+            return refuse(SIZE);
         }
         for (int i = 0; i < size / 3; i++) {
             boolean isRuling = isTrait(rows.cellOf(r, 3 * i))
                 && isValue(rows.cellOf(r, 3 * i + 1)) && isFlag(rows.cellOf(r, 3 * i + 2));
             if (!isRuling) {
-                return UNLIKE;
+                return refuse(UNLIKE);
             }
         }
         return 0;
@@ -1004,17 +1008,18 @@ public final class NeitherBare {
 
     // ---- judgements
 
-    private int judgementFinding(int r) {
-        if (!rows.isThere(r)) {
-            return NOTHING;
+    private int refusedJudgements(int r) {
+        int refused = refusedPlace(rows, r);
+        if (refused != 0) {
+            return refused;
         }
         int size = rows.sizeOf(r);
         if (size % 2 != 0) {
-            return SIZE;
+            return refuse(SIZE);
         }
         for (int i = 0; i < size / 2; i++) {
             if (!court.isWay(rows.cellOf(r, 2 * i)) || !isFlag(rows.cellOf(r, 2 * i + 1))) {
-                return UNLIKE;
+                return refuse(UNLIKE);
             }
         }
         return 0;
@@ -1178,6 +1183,8 @@ public final class NeitherBare {
         // Figures that the item being read still lacks.
         int due;
         final int[] given = new int[THINGS_MOST * GIVEN];
+        // What each WAY's THINGS give and COST together, as addUp() leaves it.
+        final int[] sums = new int[WAYS_MOST * GIVEN];
         final int[] kind = new int[CLAUSES_MOST];
         final int[] trait = new int[CLAUSES_MOST];
         final int[] other = new int[CLAUSES_MOST];
@@ -1279,14 +1286,19 @@ public final class NeitherBare {
             return isTrait(other[k]) ? other[k] : (trait[k] + 1) % TRAITS;
         }
 
-        int sumOf(int way, int what) {
-            int sum = 0;
-            for (int i = 0; i < things; i++) {
-                if (hasBit(way, i)) {
-                    sum += given[i * GIVEN + what];
+        /** Each WAY gets what it gives from the WAY without its first THING. */
+        void addUp() {
+            for (int way = 1; way < ways(); way++) {
+                int first = Integer.numberOfTrailingZeros(way);
+                int rest = way & ~(1 << first);
+                for (int what = 0; what < GIVEN; what++) {
+                    sums[way * GIVEN + what] = sumOf(rest, what) + given[first * GIVEN + what];
                 }
             }
-            return sum;
+        }
+
+        int sumOf(int way, int what) {
+            return sums[way * GIVEN + what];
         }
 
         int valueOf(int way, int trait) {
@@ -1307,7 +1319,6 @@ public final class NeitherBare {
         /** Whether a CLAUSE, were it of this KIND, HOLDS of a WAY by these BORDERS. */
         boolean isHeldAs(int asKind, int k, int way, int[] border) {
             int first = trait[k];
-            int second = secondOf(k);
             int v = valueOf(way, first);
             int lower = border[2 * first];
             int upper = border[2 * first + 1];
@@ -1319,14 +1330,24 @@ public final class NeitherBare {
                 case NEITHER:
                     return between;
                 case BOTH:
-                    return much && valueOf(way, second) >= border[2 * second + 1];
+                    return much && isSecondMuch(k, way, border);
                 case UNDONE:
                     return !much;
                 case HALF:
                     return between && v == (lower + upper) / 2;
                 default:
-                    return much && valueOf(way, second) <= border[2 * second];
+                    return much && isSecondLittle(k, way, border);
             }
+        }
+
+        private boolean isSecondMuch(int k, int way, int[] border) {
+            int second = secondOf(k);
+            return valueOf(way, second) >= border[2 * second + 1];
+        }
+
+        private boolean isSecondLittle(int k, int way, int[] border) {
+            int second = secondOf(k);
+            return valueOf(way, second) <= border[2 * second];
         }
     }
 

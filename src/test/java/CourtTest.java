@@ -19,11 +19,6 @@ final class CourtTest {
         due.end();
     }
 
-    private static void finding(NeitherBare x, String call, int got, int which) {
-        due.is(call, got, FINDING);
-        due.is("finding() behind " + call, x.finding(), which);
-    }
-
     private static void promise8Text() {
         NeitherBare x = new NeitherBare();
         due.is("text(0, 80)", x.text(0, 80), 80);
@@ -32,7 +27,7 @@ final class CourtTest {
         due.is("text(0, 81)", x.text(0, 81), BAD);
         due.is("text(4, 1)", x.text(4, 1), BAD);
         due.is("text(-1, 1)", x.text(-1, 1), BAD);
-        finding(x, "text(0, -1)", x.text(0, -1), SIZE);
+        due.finding(x, "text(0, -1)", x.text(0, -1), SIZE);
         x.put(0, 5, 65);
         due.is("text(0, 6) anew", x.text(0, 6), 6);
         due.is("a blank", x.put(0, 5, 65), 1032);
@@ -50,9 +45,9 @@ final class CourtTest {
         due.is("put(1, 1, 0)", x.put(1, 1, 0), 1032);
         due.is("put(4, 0, 0)", x.put(4, 0, 0), BAD);
         due.is("put(-1, 0, 0)", x.put(-1, 0, 0), BAD);
-        finding(x, "put(0, 0, 0)", x.put(0, 0, 0), NOTHING);
-        finding(x, "put(1, 2, 0)", x.put(1, 2, 0), BEYOND);
-        finding(x, "put(1, -1, 0)", x.put(1, -1, 0), BEYOND);
+        due.finding(x, "put(0, 0, 0)", x.put(0, 0, 0), NOTHING);
+        due.finding(x, "put(1, 2, 0)", x.put(1, 2, 0), BEYOND);
+        due.finding(x, "put(1, -1, 0)", x.put(1, -1, 0), BEYOND);
     }
 
     private static void fault(String signs, int want) {
@@ -66,7 +61,7 @@ final class CourtTest {
         NeitherBare x = new NeitherBare();
         due.is("fault(4)", x.fault(4), BAD);
         due.is("fault(-1)", x.fault(-1), BAD);
-        finding(x, "fault(0)", x.fault(0), NOTHING);
+        due.finding(x, "fault(0)", x.fault(0), NOTHING);
         fault(ALL, NONE);
         fault("t00000", NONE);
         fault("  t33339  t00000  ", NONE);
@@ -117,16 +112,18 @@ final class CourtTest {
         due.is("clauses", x.count(1), 6);
         x.strike(0, 1);
         x.move(2, 1, 5);
+        x.keep(0);
         x.keep(1);
+        x.keep(2);
         due.is("court(4)", x.court(4), BAD);
         due.is("court(-1)", x.court(-1), BAD);
-        finding(x, "court(1)", x.court(1), NOTHING);
+        due.finding(x, "court(1)", x.court(1), NOTHING);
         Due.write(x, 1, "t00000 c0 t00000");
         due.is("court(1) with a FAULT", x.court(1), STATE);
         due.is("things stay", x.count(0), 5);
         due.is("clauses stay", x.count(1), 6);
         due.is("DEEDS stay", x.count(3), 2);
-        due.is("kept stay", x.count(8), 1);
+        due.is("kept stay", x.count(8), 3);
         due.is("a fault is looked for", x.fault(1), 10);
         due.is("things stay behind fault()", x.count(0), 5);
         Due.write(x, 1, "t12341 t00000 c0");
@@ -138,7 +135,7 @@ final class CourtTest {
         due.is("no DEEDS", x.count(3), 0);
         due.is("kept go", x.count(8), 0);
         due.is("upper as at first", x.border(2, 1), 4);
-        finding(x, "on(1)", x.on(1), NOTHING);
+        due.finding(x, "on(1)", x.on(1), NOTHING);
         due.is("the ROW of signs stays", x.count(7), 2);
     }
 
@@ -214,6 +211,11 @@ final class CourtTest {
         due.is("two between", x.mark(4, 1), 2);
         x.move(1, 1, 2);
         due.is("two THINGS make it MUCH", x.mark(1, 3), 2);
+        x.move(1, 0, 0);
+        x.move(1, 1, 1);
+        due.is("three THINGS make it MUCH, the first, too", x.mark(1, 3), 3);
+        x.move(1, 1, 2);
+        x.move(1, 0, 1);
         x.move(2, 1, 5);
         due.is("the greater upper one, the first", x.mark(3, 2), 5);
         x.move(2, 1, 3);

@@ -101,6 +101,25 @@ final class DeedsTest {
         due.is("DEEDS", x.count(3), 0);
         due.is("ON", x.count(2), 2);
         due.is("border(1, 0)", x.border(1, 0), 1);
+        undoOfLastOnes();
+    }
+
+    private static void undoOfLastOnes() {
+        NeitherBare x = Due.court("t00000 c0 c1 c2 c3 u0 u1 u2 u3");
+        x.strike(7, 1);
+        x.move(3, 1, 5);
+        x.strike(1, 1);
+        x.move(0, 0, 0);
+        x.strike(7, 0);
+        due.is("undo(1)", x.undo(1), 4);
+        x.clause(7, 3);
+        due.is("CLAUSE 7 is STRUCK again", x.asked(), 0);
+        x.clause(1, 3);
+        due.is("CLAUSE 1 is ON again", x.asked(), 1);
+        due.is("border(3, 1)", x.border(3, 1), 4);
+        due.is("border(0, 0)", x.border(0, 0), 1);
+        due.is("undo(0)", x.undo(0), 1);
+        due.is("ON", x.count(2), 8);
     }
 
     private static void promise19Keep() {

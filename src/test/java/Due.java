@@ -16,6 +16,12 @@ final class Due {
         }
     }
 
+    /** The call was refused by this FINDING. */
+    void finding(NeitherBare x, String call, int got, int which) {
+        is(call, got, NeitherBare.FINDING);
+        is("finding() behind " + call, x.finding(), which);
+    }
+
     /** Ends the test with exit code 1 if an answer was wrong, or if there was none at all. */
     void end() {
         System.out.println(test + ": " + looked + " answers, " + wrong + " not as due");

@@ -16,11 +16,6 @@ final class RowsTest {
         due.end();
     }
 
-    private static void finding(NeitherBare x, String call, int got, int which) {
-        due.is(call, got, FINDING);
-        due.is("finding() behind " + call, x.finding(), which);
-    }
-
     private static void promise1NewObject() {
         NeitherBare x = new NeitherBare();
         int[] counts = {0, 0, 0, 0, 0, 0, 0, 0, 0};
@@ -31,8 +26,8 @@ final class RowsTest {
             due.is("new border(" + trait + ", 0)", x.border(trait, 0), 1);
             due.is("new border(" + trait + ", 1)", x.border(trait, 1), 4);
         }
-        finding(x, "new tear(0)", x.tear(0), NOTHING);
-        finding(x, "new fault(3)", x.fault(3), NOTHING);
+        due.finding(x, "new tear(0)", x.tear(0), NOTHING);
+        due.finding(x, "new fault(3)", x.fault(3), NOTHING);
         due.is("new thing(0, 0)", x.thing(0, 0), BAD);
         due.is("new clause(0, 0)", x.clause(0, 0), BAD);
         due.is("new good()", x.good(), -4);
@@ -55,8 +50,8 @@ final class RowsTest {
         due.is("row(0, 41)", x.row(0, 41), BAD);
         due.is("row(6, -1)", x.row(6, -1), BAD);
         due.is("finding()", x.finding(), 0);
-        finding(x, "row(0, -1)", x.row(0, -1), SIZE);
-        finding(x, "row(0, MIN)", x.row(0, Integer.MIN_VALUE), SIZE);
+        due.finding(x, "row(0, -1)", x.row(0, -1), SIZE);
+        due.finding(x, "row(0, MIN)", x.row(0, Integer.MIN_VALUE), SIZE);
         x.lay(0, 2, 7);
         due.is("row(0, -1) changes nothing", x.row(0, -1), FINDING);
         x.at(0, 2);
@@ -77,9 +72,9 @@ final class RowsTest {
         due.is("asked()", x.asked(), 9);
         due.is("lay(6, 0, 1)", x.lay(6, 0, 1), BAD);
         due.is("lay(-1, 0, 1)", x.lay(-1, 0, 1), BAD);
-        finding(x, "lay(3, 0, 1)", x.lay(3, 0, 1), NOTHING);
-        finding(x, "lay(2, 4, 1)", x.lay(2, 4, 1), BEYOND);
-        finding(x, "lay(2, -1, 1)", x.lay(2, -1, 1), BEYOND);
+        due.finding(x, "lay(3, 0, 1)", x.lay(3, 0, 1), NOTHING);
+        due.finding(x, "lay(2, 4, 1)", x.lay(2, 4, 1), BEYOND);
+        due.finding(x, "lay(2, -1, 1)", x.lay(2, -1, 1), BEYOND);
         due.is("asked() as it was", x.asked(), 9);
         x.at(2, 3);
         due.is("asked()", x.asked(), Integer.MAX_VALUE);
@@ -97,12 +92,12 @@ final class RowsTest {
         due.is("asked()", x.asked(), 7);
         due.is("at(6, 0)", x.at(6, 0), BAD);
         due.is("at(-1, 0)", x.at(-1, 0), BAD);
-        finding(x, "at(2, 0)", x.at(2, 0), NOTHING);
-        finding(x, "at(2, 9)", x.at(2, 9), NOTHING);
-        finding(x, "at(0, 3)", x.at(0, 3), BEYOND);
-        finding(x, "at(0, -1)", x.at(0, -1), BEYOND);
-        finding(x, "at(0, MIN)", x.at(0, Integer.MIN_VALUE), BEYOND);
-        finding(x, "at(0, MAX)", x.at(0, Integer.MAX_VALUE), BEYOND);
+        due.finding(x, "at(2, 0)", x.at(2, 0), NOTHING);
+        due.finding(x, "at(2, 9)", x.at(2, 9), NOTHING);
+        due.finding(x, "at(0, 3)", x.at(0, 3), BEYOND);
+        due.finding(x, "at(0, -1)", x.at(0, -1), BEYOND);
+        due.finding(x, "at(0, MIN)", x.at(0, Integer.MIN_VALUE), BEYOND);
+        due.finding(x, "at(0, MAX)", x.at(0, Integer.MAX_VALUE), BEYOND);
         due.is("asked() as it was", x.asked(), 7);
     }
 
@@ -112,8 +107,8 @@ final class RowsTest {
         x.lay(4, 0, 3);
         due.is("tear(4)", x.tear(4), 1);
         due.is("count(6)", x.count(6), 0);
-        finding(x, "tear(4) again", x.tear(4), NOTHING);
-        finding(x, "at(4, 0)", x.at(4, 0), NOTHING);
+        due.finding(x, "tear(4) again", x.tear(4), NOTHING);
+        due.finding(x, "at(4, 0)", x.at(4, 0), NOTHING);
         due.is("tear(6)", x.tear(6), BAD);
         due.is("tear(-1)", x.tear(-1), BAD);
         x.row(4, 2);
@@ -151,16 +146,16 @@ final class RowsTest {
         due.is("copy(0, 0, 6, 0, 1)", x.copy(0, 0, 6, 0, 1), BAD);
         due.is("copy(-1, 0, 1, 0, 1)", x.copy(-1, 0, 1, 0, 1), BAD);
         due.is("copy(0, 0, -1, 0, -1)", x.copy(0, 0, -1, 0, -1), BAD);
-        finding(x, "copy(2, 0, 1, 0, -1)", x.copy(2, 0, 1, 0, -1), SIZE);
-        finding(x, "copy(2, 9, 1, 0, 1)", x.copy(2, 9, 1, 0, 1), NOTHING);
-        finding(x, "copy(0, 0, 2, 0, 1)", x.copy(0, 0, 2, 0, 1), NOTHING);
-        finding(x, "copy(0, 2, 1, 0, 2)", x.copy(0, 2, 1, 0, 2), BEYOND);
-        finding(x, "copy(0, 0, 1, 1, 2)", x.copy(0, 0, 1, 1, 2), BEYOND);
-        finding(x, "copy(0, -1, 1, 0, 1)", x.copy(0, -1, 1, 0, 1), BEYOND);
-        finding(x, "copy(0, 0, 1, -1, 1)", x.copy(0, 0, 1, -1, 1), BEYOND);
-        finding(x, "copy(0, MAX, 1, 0, MAX)", x.copy(0, max, 1, 0, max), BEYOND);
-        finding(x, "copy(0, 1, 1, 0, MAX)", x.copy(0, 1, 1, 0, max), BEYOND);
-        finding(x, "copy(0, 4, 1, 0, 0)", x.copy(0, 4, 1, 0, 0), BEYOND);
+        due.finding(x, "copy(2, 0, 1, 0, -1)", x.copy(2, 0, 1, 0, -1), SIZE);
+        due.finding(x, "copy(2, 9, 1, 0, 1)", x.copy(2, 9, 1, 0, 1), NOTHING);
+        due.finding(x, "copy(0, 0, 2, 0, 1)", x.copy(0, 0, 2, 0, 1), NOTHING);
+        due.finding(x, "copy(0, 2, 1, 0, 2)", x.copy(0, 2, 1, 0, 2), BEYOND);
+        due.finding(x, "copy(0, 0, 1, 1, 2)", x.copy(0, 0, 1, 1, 2), BEYOND);
+        due.finding(x, "copy(0, -1, 1, 0, 1)", x.copy(0, -1, 1, 0, 1), BEYOND);
+        due.finding(x, "copy(0, 0, 1, -1, 1)", x.copy(0, 0, 1, -1, 1), BEYOND);
+        due.finding(x, "copy(0, MAX, 1, 0, MAX)", x.copy(0, max, 1, 0, max), BEYOND);
+        due.finding(x, "copy(0, 1, 1, 0, MAX)", x.copy(0, 1, 1, 0, max), BEYOND);
+        due.finding(x, "copy(0, 4, 1, 0, 0)", x.copy(0, 4, 1, 0, 0), BEYOND);
         rowIs(x, 1, 0, 0);
     }
 
@@ -177,9 +172,9 @@ final class RowsTest {
         due.is("asked() of great ones", x.asked(), Integer.MAX_VALUE);
         due.is("mean(6)", x.mean(6), BAD);
         due.is("mean(-1)", x.mean(-1), BAD);
-        finding(x, "mean(1)", x.mean(1), NOTHING);
+        due.finding(x, "mean(1)", x.mean(1), NOTHING);
         x.row(1, 0);
-        finding(x, "mean(1) of none", x.mean(1), NOUGHT);
+        due.finding(x, "mean(1) of none", x.mean(1), NOUGHT);
         due.is("asked() as it was", x.asked(), Integer.MAX_VALUE);
     }
 }

@@ -19,11 +19,6 @@ final class RulingsTest {
         due.end();
     }
 
-    private static void finding(NeitherBare x, String call, int got, int which) {
-        due.is(call, got, FINDING);
-        due.is("finding() behind " + call, x.finding(), which);
-    }
-
     private static void promise35Contradict() {
         NeitherBare x = new NeitherBare();
         Due.fill(x, 0, 0, 3, 1, 0, 4, 0, 0, 2, 0, 1, 1, 1, 1, 0, 0);
@@ -32,6 +27,11 @@ final class RulingsTest {
         Due.fill(x, 0, 1, 1, 1, 0, 4, 0, 2, 0, 0, 0, 4, 1, 0, 3, 1);
         due.is("as great, greater; he not one first", x.contradict(0), 2);
         due.is("asked()", x.asked(), 103);
+        Due.fill(x, 0, 0, 3, 1, 0, 3, 0);
+        due.is("as great, the MUCH one first", x.contradict(0), 1);
+        Due.fill(x, 0, 0, 3, 0, 1, 3, 1, 0, 3, 1);
+        due.is("as great, the MUCH one behind", x.contradict(0), 1);
+        due.is("asked()", x.asked(), 2);
         Due.fill(x, 0, 0, 3, 1, 1, 4, 0, 0, 2, 0, 0, 5, 1, 1, 4, 0);
         due.is("none", x.contradict(0), 0);
         due.is("asked()", x.asked(), NONE);
@@ -102,15 +102,15 @@ final class RulingsTest {
     }
 
     private static void refusedAll(NeitherBare x, int r, int which) {
-        finding(x, "contradict(" + r + ")", x.contradict(r), which);
-        finding(x, "fix(" + r + ")", x.fix(r), which);
-        finding(x, "follows(" + r + ")", x.follows(r, 0, 0), which);
-        finding(x, "borders(" + r + ")", x.borders(r, 0), which);
+        due.finding(x, "contradict(" + r + ")", x.contradict(r), which);
+        due.finding(x, "fix(" + r + ")", x.fix(r), which);
+        due.finding(x, "follows(" + r + ")", x.follows(r, 0, 0), which);
+        due.finding(x, "borders(" + r + ")", x.borders(r, 0), which);
     }
 
     private static void promises35To38Refused() {
         int[][] unlike = {{4, 0, 0}, {-1, 0, 0}, {0, 6, 0}, {0, -1, 0}, {0, 0, 2}, {0, 0, -1},
-            {0, 0, 0, 0, 0, 2}};
+            {0, 0, 0, 0, 0, 2}, {0, 0, 0, 0, 6, 0}, {0, 0, 0, 4, 0, 0}, {0, 0, 0, 0, 0, 0, 0, 6, 1}};
         NeitherBare x = new NeitherBare();
         refusedAll(x, 0, NOTHING);
         Due.fill(x, 0, 9, 9, 9, 9);
@@ -171,6 +171,12 @@ final class RulingsTest {
         due.is("falls(-1, 0, 0)", x.falls(-1, 0, 0), BAD);
         due.is("falls(0, 2, 3)", x.falls(0, 2, 3), BAD);
         due.is("asked() as it was", x.asked(), 4);
+        NeitherBare bare = Due.court("t30000t20000 u0");
+        due.is("falls(0, 1, 2)", bare.falls(0, 1, 2), 2);
+        NeitherBare none = Due.court("t30000t20000 h0");
+        none.move(0, 0, 0);
+        due.is("falls(0, 1, 2)", none.falls(0, 1, 2), 1);
+        due.is("asked()", none.asked(), 0);
         NeitherBare y = new NeitherBare();
         due.is("falls(0, 0, 2) without THINGS", y.falls(0, 0, 2), 0);
         due.is("DEEDS", y.count(3), 0);
@@ -222,21 +228,27 @@ final class RulingsTest {
         due.is("DEEDS stay", x.count(3), 1);
         x.strike(2, 1);
         due.is("a STRUCK one", x.judged(2, 0), 6);
+        NeitherBare last = Due.court("t00010t00020 x32 h3");
+        Due.fill(last, 0, 3, 1, 2, 0, 0, 0);
+        due.is("of TRAIT 3", last.judged(0, 0), 3);
+        due.is("asked()", last.asked(), 3);
+        due.is("half at 3, not at 2", last.judged(1, 0), 3);
+        due.is("asked()", last.asked(), 15);
     }
 
     private static void promise42JudgedRefused() {
         NeitherBare x = Due.court("t10000t20000 c0");
-        finding(x, "judged(0, 0)", x.judged(0, 0), NOTHING);
+        due.finding(x, "judged(0, 0)", x.judged(0, 0), NOTHING);
         due.is("judged(1, 0)", x.judged(1, 0), BAD);
         due.is("judged(-1, 0)", x.judged(-1, 0), BAD);
         due.is("judged(0, 6)", x.judged(0, 6), BAD);
         due.is("judged(0, -1)", x.judged(0, -1), BAD);
         Due.fill(x, 0, 9, 9, 9);
-        finding(x, "judged(0, 0)", x.judged(0, 0), SIZE);
-        int[][] unlike = {{4, 0}, {-1, 0}, {3, 2}, {3, -1}, {0, 0, 4, 1}};
+        due.finding(x, "judged(0, 0)", x.judged(0, 0), SIZE);
+        int[][] unlike = {{4, 0}, {-1, 0}, {3, 2}, {3, -1}, {0, 0, 4, 1}, {0, 0, 0, 2}, {0, 0, 0, 0, 0, 2}};
         for (int[] ints : unlike) {
             Due.fill(x, 0, ints);
-            finding(x, "judged(0, 0)", x.judged(0, 0), UNLIKE);
+            due.finding(x, "judged(0, 0)", x.judged(0, 0), UNLIKE);
         }
     }
 }

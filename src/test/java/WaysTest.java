@@ -108,6 +108,9 @@ final class WaysTest {
         NeitherBare y = Due.court("t30003t30003t30003 c0");
         due.is("the least number of alike ones", y.cheapest(), 3);
         due.is("asked()", y.asked(), 6);
+        due.is("strike(0, 1)", y.strike(0, 1), 0);
+        due.is("no THING at all", y.cheapest(), 0);
+        due.is("asked()", y.asked(), 0);
         NeitherBare z = Due.court("t00001 c0");
         z.value(0, 0);
         z.thing(0, 4);
@@ -123,6 +126,11 @@ final class WaysTest {
         due.is("fewest()", x.fewest(), 8);
         due.is("asked()", x.asked(), 1);
         x.strike(0, 1);
+        NeitherBare six = Due.court("t10000t10000t10000t01000t01000t01000 b01");
+        six.move(0, 1, 3);
+        six.move(1, 1, 3);
+        due.is("fewest(), all six", six.fewest(), 63);
+        due.is("asked()", six.asked(), 6);
         due.is("fewest() of all", x.fewest(), 0);
         due.is("asked()", x.asked(), 0);
         NeitherBare z = Due.court("t00001 c0");
@@ -166,6 +174,9 @@ final class WaysTest {
         }
         x.strike(4, 1);
         due.is("clash(20), STRUCK ones, too", x.clash(20), 1);
+        NeitherBare bare = Due.court("t30000t20000 u0");
+        bare.move(0, 1, 2);
+        due.is("no CLASH by the WAY of none alone", bare.clash(1), 0);
         NeitherBare y = new NeitherBare();
         due.is("clash(1) without CLAUSES", y.clash(1), BAD);
         due.is("clash(0) without THINGS", y.clash(0), STATE);
@@ -229,6 +240,11 @@ final class WaysTest {
         x.strike(4, 1);
         due.is("relent(), none", x.relent(), 0);
         due.is("asked()", x.asked(), 0);
+        NeitherBare bare = Due.court("t30000t20000 u0");
+        bare.move(0, 1, 2);
+        due.is("relent(), the WAY of none is GOOD", bare.relent(), 0);
+        due.is("nearest(), the WAY of none", bare.nearest(), 0);
+        due.is("good(), the WAY of none", bare.good(), 1);
         NeitherBare y = Due.court("t00000 c0 c0 u0");
         due.is("relent() of alike ones", y.relent(), 2);
         due.is("asked()", y.asked(), 3);
