@@ -16,6 +16,20 @@ final class Due {
         }
     }
 
+    /** For a part of the test, which tells its own name. */
+    Due partFor(String name) {
+        return new Due(test + ", " + name);
+    }
+
+    void add(Due part) {
+        looked += part.looked;
+        wrong += part.wrong;
+    }
+
+    int looked() {
+        return looked;
+    }
+
     /** The call was refused by this FINDING. */
     void finding(NeitherBare x, String call, int got, int which) {
         is(call, got, NeitherBare.FINDING);

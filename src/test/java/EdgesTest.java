@@ -19,7 +19,8 @@ final class EdgesTest {
                 Random random = new Random(state * 1000L + call.getName().hashCode());
                 NeitherBare x = made(state);
                 for (int i = 0; i < 1500; i++) {
-                    if (i % 100 == 0) {
+                    // Anew every now and then: an object is used for 512 calls at most.
+                    if (i % 30 == 0) {
                         x = made(state);
                     }
                     look(x, call, numbers(random, call.getParameterCount()));

@@ -2,7 +2,8 @@ import java.util.Random;
 
 /** All promises: runs of calls, ordinary and wrong ones, as the Model answers them. */
 final class ModelTest {
-    private static final int RUNS = 1200, CALLS = 240;
+    // An object is used for 512 calls at most; one step takes up to 90 of them.
+    private static final int RUNS = 3000, CALLS = 420;
     private static final int[] ODD = {-1, 6, 41, 81, Integer.MIN_VALUE, Integer.MAX_VALUE, 64, -9};
     private static final Due due = new Due("ModelTest");
 
@@ -10,6 +11,7 @@ final class ModelTest {
     private final NeitherBare x = new NeitherBare();
     private final Model m = new Model();
     private String call = "";
+    private int calls;
 
     private ModelTest(int seed) {
         random = new Random(seed);
@@ -22,7 +24,7 @@ final class ModelTest {
             if (run % 8 != 0) {
                 test.newCourt();
             }
-            for (int c = 0; c < CALLS; c++) {
+            while (test.calls < CALLS) {
                 test.step(run);
             }
         }
@@ -34,17 +36,29 @@ final class ModelTest {
         long[] answers = which < 16 ? rowsAndTexts(which) : which < 36 ? courts(which) : rest(which);
         String where = "run " + run + ": " + call;
         due.is(where, answers[0], answers[1]);
+        if (random.nextInt(3) == 0) {
+            whatIsTold(where);
+        }
+        if (random.nextInt(8) == 0) {
+            whatIsCounted(where);
+        }
+    }
+
+    private void whatIsTold(String where) {
         due.is(where + ", then asked()", x.asked(), m.asked());
         due.is(where + ", then upper()", x.upper(), m.upper());
         due.is(where + ", then lower()", x.lower(), m.lower());
         due.is(where + ", then finding()", x.finding(), m.finding());
-        if (random.nextInt(8) == 0) {
-            due.is(where + ", then digest()", x.digest(), m.digest());
-            int f = any(7);
-            due.is(where + ", then findings()", x.findings(f), m.findings(f));
-            int what = any(10);
-            due.is(where + ", then count()", x.count(what), m.count(what));
-        }
+        calls += 4;
+    }
+
+    private void whatIsCounted(String where) {
+        due.is(where + ", then digest()", x.digest(), m.digest());
+        int f = any(7);
+        due.is(where + ", then findings()", x.findings(f), m.findings(f));
+        int what = any(10);
+        due.is(where + ", then count()", x.count(what), m.count(what));
+        calls += 3;
     }
 
     /** Mostly 0 .. below - 1, now and then a number that is none. */
@@ -70,6 +84,7 @@ final class ModelTest {
             b.append(i == 0 ? "" : ", ").append(args[i]);
         }
         call = b.append(')').toString();
+        calls++;
         return new long[] {got, want};
     }
 
@@ -125,6 +140,7 @@ final class ModelTest {
             x.lay(r, i, v);
             m.lay(r, i, v);
         }
+        calls += n;
         return answers;
     }
 
@@ -163,6 +179,7 @@ final class ModelTest {
             m.put(t, i, signs.charAt(i));
         }
         due.is("fault of '" + signs + "'", x.fault(t), m.fault(t));
+        calls += 2 + signs.length();
         return pair("court '" + signs + "' ", x.court(t), m.court(t), t);
     }
 

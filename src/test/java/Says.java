@@ -1,0 +1,14 @@
+import java.lang.annotation.ElementType;
+import java.lang.annotation.Retention;
+import java.lang.annotation.RetentionPolicy;
+import java.lang.annotation.Target;
+
+/** The words of the document that a test is for. */
+@Retention(RetentionPolicy.RUNTIME)
+@Target(ElementType.METHOD)
+@interface Says {
+    /** The promise's number; 0: the words ahead of all promises. */
+    int of();
+
+    String[] it();
+}
