@@ -40,6 +40,19 @@ final class ClashesSays extends Sentences {
         is("clash(255)", x.clash(255), 1);
     }
 
+    @Says(of = 29, it = "Whether CLAUSES of a set (bits) CLASH (1, 0")
+    void clashLooksAtEachWay() {
+        court("t30000 u0");
+        x.move(0, 1, 2);
+        is("clash(1), but for the WAY of none", x.clash(1), 0);
+        court("t10000t10000t10000t10000t10000t01000 b01");
+        x.move(0, 1, 5);
+        bordersTo(1, 0, 1);
+        is("clash(1), but for the WAY of all", x.clash(1), 0);
+        court("t00000t00000t00000t00000t00000t00000 c0");
+        is("clash(1), of six THINGS", x.clash(1), 1);
+    }
+
     @Says(of = 29, it = "; of none: 0)")
     void clashOfNone() {
         court(CLASHING);
@@ -76,6 +89,10 @@ final class ClashesSays extends Sentences {
         is("two(), the last two", x.two(), 6);
         court("t30000t30000 u1 c1 c0 u0");
         is("two(), one alone", x.two(), 2);
+        court("t00000 c0");
+        tells("two(), the only one", x.two(), 1, 1);
+        court("t30000t30000 c0 u0");
+        tells("two(), the only two", x.two(), 3, 1);
         court("t00000 u0 u0 u0 u0 u0 u0 u0 c0");
         is("two(), the last one", x.two(), 128);
         x.strike(7, 1);
@@ -137,6 +154,19 @@ final class ClashesSays extends Sentences {
         tells("least(), the last one", x.least(), 1, 128);
     }
 
+    @Says(of = 31, it = "The fewest CLAUSES that CLASH")
+    void leastOfAFewClauses() {
+        court("t00000 c0");
+        tells("least(), the only one", x.least(), 1, 1);
+        court("t11020t33200t20100t30300 n1 c2 u0 u3");
+        bordersTo(0, 1, 5);
+        bordersTo(1, 0, 4);
+        bordersTo(2, 1, 3);
+        bordersTo(3, 0, 2);
+        tells("least(), all four", x.least(), 4, 15);
+        tells("two()", x.two(), NONE, 0);
+    }
+
     @Says(of = 31, it = "NONE: none do.")
     void leastOfNone() {
         court("t30005t30000 c0");
@@ -184,6 +214,19 @@ final class ClashesSays extends Sentences {
         tells("relent(), the one, not the two", x.relent(), 1, 4);
         threeClash();
         tells("relent(), u3, not two of the others", x.relent(), 1, 8);
+    }
+
+    @Says(of = 32, it = "The fewest CLAUSES that are ON to be STRUCK so that a WAY is GOOD")
+    void relentLooksAtEachWay() {
+        court("t30000 u0");
+        x.move(0, 1, 2);
+        tells("relent(), the WAY of none is GOOD", x.relent(), 0, 0);
+        court("t10000t10000t10000t10000t10000t01000 b01");
+        x.move(0, 1, 5);
+        bordersTo(1, 0, 1);
+        tells("relent(), the WAY of all is GOOD", x.relent(), 0, 0);
+        x.move(1, 1, 2);
+        tells("relent(), none is GOOD", x.relent(), 1, 1);
     }
 
     @Says(of = 32, it = "STATE: no THINGS.")

@@ -104,6 +104,24 @@ final class CourtsSays extends Sentences {
         is("good()", x.good(), 0);
     }
 
+    @Says(of = 10, it = "A FAULT of a TEXT")
+    void faultOfOneTextBehindAnother() {
+        String[] ahead = {"t", "t00", "t0000", "t00000b", "t00000b0", "t00000c0c", "t00000c0t", "c", ""};
+        for (String signs : ahead) {
+            x = new NeitherBare();
+            write(0, signs);
+            write(1, "t00000 b01");
+            write(2, "c0");
+            is("fault(0) of '" + signs + "' there is", x.fault(0) == NONE ? 1 : 0, 0);
+            is("fault(1)", x.fault(1), NONE);
+            x.fault(0);
+            is("fault(2)", x.fault(2), 0);
+            x.fault(0);
+            is("court(1)", x.court(1), 1);
+            is("count(1)", x.count(1), 1);
+        }
+    }
+
     @Says(of = 10, it = "NONE: there is none.")
     void faultIsNone() {
         faultIs(ALL, NONE);
@@ -154,6 +172,30 @@ final class CourtsSays extends Sentences {
         is("count(0), whatever the TEXT is later", x.count(0), 2);
         x.text(1, 0);
         is("clause(1, 2)", x.clause(1, 2), 1);
+    }
+
+    @Says(of = 11, it = "A COURT by a TEXT")
+    void aSmallCourtBehindAGreatOne() {
+        court(GREATEST);
+        x.good();
+        write(1, "t00000 b01");
+        x.court(1);
+        x.good();
+        write(1, "t30001t10002 u0");
+        x.court(1);
+        is("value(1, 0)", x.value(1, 0), 3);
+        is("value(3, 0)", x.value(3, 0), 4);
+        is("cost(3)", x.cost(3), 3);
+        tells("good()", x.good(), 3, 0);
+        tells("nearest()", x.nearest(), 0, 1);
+        is("clash(1)", x.clash(1), 0);
+        is("clash(2)", x.clash(2), BAD);
+        is("count(2)", x.count(2), 1);
+        is("count(5)", x.count(5), 0);
+        is("mark(0, 3)", x.mark(0, UNDONE), 0);
+        is("holds(0)", x.holds(0), 1);
+        tells("relent()", x.relent(), 0, 0);
+        is("names(3)", x.names(3), NONE);
     }
 
     @Says(of = 11, it = "(anew: all ON")

@@ -57,8 +57,7 @@ final class Due {
         NeitherBare x = new NeitherBare();
         write(x, 0, signs);
         if (x.court(0) < 1) {
-            System.out.println("no COURT: " + signs);
-            System.exit(1);
+            throw new IllegalStateException("no COURT: " + signs);
         }
         return x;
     }

@@ -114,6 +114,34 @@ final class LoopholesSays extends Sentences {
         tells("falls(0, 0, 3): none", x.falls(0, 0, 3), 1, 0);
     }
 
+    @Says(of = 40, it = "WAYS that are GOOD now, and are not, if a BORDER of a TRAIT is v: how many")
+    void fallsOfEachTrait() {
+        String[] ladders = {"t10000t20000t30000", "t01000t02000t03000", "t00100t00200t00300", "t00010t00020t00030"};
+        for (int trait = 0; trait <= 3; trait++) {
+            court(ladders[trait] + " n" + trait);
+            for (int other = 0; other <= 3; other++) {
+                boolean own = other == trait;
+                tells("falls(" + other + ", 1, 5)", x.falls(other, 1, 5), 0, own ? 1 : 0);
+                tells("falls(" + other + ", 0, 2)", x.falls(other, 0, 2), own ? 1 : 0, 0);
+                tells("falls(" + other + ", 0, 0)", x.falls(other, 0, 0), 0, own ? 1 : 0);
+            }
+        }
+    }
+
+    @Says(of = 40, it = "if a BORDER of a TRAIT is v")
+    void fallsByAllOtherBordersAsTheyAre() {
+        for (int trait = 1; trait <= 3; trait++) {
+            String gift = "t0000".substring(0, 1 + trait) + "3" + "0000".substring(trait);
+            court("t30000" + gift + " b0" + trait);
+            x.move(0, 1, 3);
+            x.move(trait, 1, 3);
+            tells("falls(0, 1, 2)", x.falls(0, 1, 2), 0, 0);
+            tells("falls(0, 1, 5)", x.falls(0, 1, 5), 1, 0);
+            x.move(trait, 0, 2);
+            tells("falls(" + trait + ", 1, 4)", x.falls(trait, 1, 4), 1, 0);
+        }
+    }
+
     @Says(of = 40, it = "BAD: also not as move() wants")
     void fallsNotAsMoveWants() {
         for (int none : NO_TRAIT) {
@@ -268,6 +296,34 @@ final class LoopholesSays extends Sentences {
         is("border(0, 0)", x.border(0, 0), 1);
         is("border(0, 1)", x.border(0, 1), 4);
         is("count(3)", x.count(3), 2);
+    }
+
+    @Says(of = 42, it = "of its TRAIT this can be")
+    void judgedOfEachTrait() {
+        String[] ladders = {"t10000t20000t30000", "t01000t02000t03000", "t00100t00200t00300", "t00010t00020t00030"};
+        for (int trait = 0; trait <= 3; trait++) {
+            court(ladders[trait] + " n" + trait + " c" + (trait + 1) % 4);
+            fill(0, 4, 1, 2, 0);
+            tells("judged(0, 0) of TRAIT " + trait, x.judged(0, 0), 2, 24);
+            fill(0, 7, 0, 0, 0);
+            tells("judged(1, 0), never MUCH", x.judged(1, 0), 15, 1);
+        }
+    }
+
+    @Says(of = 42, it = ", all else as it is")
+    void judgedByAllOtherBordersAsTheyAre() {
+        for (int trait = 1; trait <= 3; trait++) {
+            String gift = "t0000".substring(0, 1 + trait) + "3" + "0000".substring(trait);
+            court("t30000" + gift + " b0" + trait + " x0" + trait);
+            fill(0, 3, 1);
+            tells("judged(0, 0), the other one is not MUCH", x.judged(0, 0), 0, NONE);
+            tells("judged(1, 0), the other one is not LITTLE", x.judged(1, 0), 0, NONE);
+            x.move(trait, 1, 3);
+            tells("judged(0, 0), MUCH at 3", x.judged(0, 0), 6, 1);
+            x.move(trait, 1, 4);
+            x.move(trait, 0, 3);
+            tells("judged(1, 0), LITTLE at 3", x.judged(1, 0), 6, 1);
+        }
     }
 
     @Says(of = 42, it = "; the first (10 times the lower one and the upper one) by asked() (NONE).")

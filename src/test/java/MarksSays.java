@@ -54,6 +54,9 @@ final class MarksSays extends Sentences {
             is("mark(0, 3) by " + upper, x.mark(0, UNDONE), want[upper - 1]);
         }
         is("mark(1, 3)", x.mark(1, UNDONE), 0);
+        court("t30000t00000t30000t30000t30000t30000 u0");
+        x.move(0, 1, 3);
+        is("mark(0, 3), of six THINGS", x.mark(0, UNDONE), 5);
     }
 
     @Says(of = 14, it = "a HALF one the VALUE at which it HOLDS (NONE: at none)")

@@ -107,6 +107,16 @@ final class RulingsSays extends Sentences {
         tells("fix(0), MUCH at 5 is struck", x.fix(0), 1, 1);
     }
 
+    @Says(of = 36, it = "The fewest RULINGS to strike so that none CONTRADICT")
+    void fixIfTheyArePartedAnywhere() {
+        for (int v = 0; v <= 4; v++) {
+            fill(0, 1, v, 0, 1, v, 0, 1, v + 1, 1, 1, v + 1, 1);
+            tells("fix(0), parted above " + v, x.fix(0), 0, 0);
+            fill(0, 1, v, 0, 1, v, 0, 1, v + 1, 1, 1, v + 1, 1, 1, 0, 1, 1, 5, 0);
+            tells("fix(0), two besides", x.fix(0), 2, 16 + 32);
+        }
+    }
+
     @Says(of = 36, it = "; which by asked() (bits, the least number of as few).")
     void fixTellsWhich() {
         fill(0, 2, 3, 1, 2, 3, 0);

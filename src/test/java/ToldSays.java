@@ -225,7 +225,10 @@ final class ToldSays extends Sentences {
         is("count(4), a HALF alone", x.count(4), 1);
         court("t00000 n0");
         is("count(4), a NEITHER alone", x.count(4), 1);
-        court("t00000 c0 b01 u0 x01");
+        court("t00000 n0n0n0n0h0h0h0h0");
+        is("count(4), all eight", x.count(4), 8);
+        write(0, "t00000 c0 b01 u0 x01");
+        x.court(0);
         is("count(4), none", x.count(4), 0);
     }
 
@@ -240,7 +243,10 @@ final class ToldSays extends Sentences {
         is("count(5), a BUT alone", x.count(5), 1);
         court("t00000 b01");
         is("count(5), a BOTH alone", x.count(5), 1);
-        court("t00000 c0 n0 u0 h0");
+        court("t00000 b01b01b01b01x01x01x01x01");
+        is("count(5), all eight", x.count(5), 8);
+        write(0, "t00000 c0 n0 u0 h0");
+        x.court(0);
         is("count(5), none", x.count(5), 0);
     }
 

@@ -114,6 +114,22 @@ final class WaysSays extends Sentences {
         tells("good(), all that give", x.good(), 2, 31);
     }
 
+    @Says(of = 24, it = "How many WAYS are GOOD")
+    void goodLooksAtEachWay() {
+        court("t10000t10000t10000t10000t10000t01000 b01");
+        x.move(0, 1, 5);
+        bordersTo(1, 0, 1);
+        tells("good(), the WAY of all", x.good(), 1, 63);
+        is("cheapest()", x.cheapest(), 63);
+        is("fewest()", x.fewest(), 63);
+        is("tight(63)", x.tight(63), 1);
+        court("t30000 u0");
+        x.move(0, 1, 2);
+        tells("good(), the WAY of none", x.good(), 1, 0);
+        is("cheapest()", x.cheapest(), 0);
+        is("fewest()", x.fewest(), 0);
+    }
+
     @Says(of = 24, it = "STATE: no THINGS.")
     void goodWithoutThings() {
         is("good()", x.good(), STATE);
@@ -240,6 +256,17 @@ final class WaysSays extends Sentences {
         tells("nearest(), without CLAUSES", x.nearest(), 0, 0);
         court("t00000 u0 u0 u0 u0 u0 u0 u0 u0");
         tells("nearest(), all eight", x.nearest(), 0, 8);
+    }
+
+    @Says(of = 27, it = "The WAY of which most CLAUSES that are ON HOLD")
+    void nearestLooksAtEachWay() {
+        court("t10000t10000t10000t10000t10000t01000 b01 u2");
+        x.move(0, 1, 5);
+        bordersTo(1, 0, 1);
+        tells("nearest(), the WAY of all", x.nearest(), 63, 2);
+        court("t30000 u0");
+        x.move(0, 1, 2);
+        tells("nearest(), the WAY of none", x.nearest(), 0, 1);
     }
 
     @Says(of = 27, it = "STATE: no THINGS.")
